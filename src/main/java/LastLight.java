@@ -31,6 +31,7 @@ public final class LastLight {
     // Whatever is only thought happens in this house, so that no call needs a new one.
     private final House thought = new House(book);
     private boolean hasImage = false;
+    private final Choice choice = new Choice();
     private final int[] waiting = new int[WAITING];
     private int waits = 0;
     private final Sheet[] sheets = new Sheet[SHEETS];
@@ -174,75 +175,51 @@ public final class LastLight {
         if (!within(n, 1, 60) || !within(what, 0, 1)) {
             return BAD;
         }
-        int best = 0;
-        int most = 0;
+        choice.begin();
         for (int law = 0; law <= LAW_LOT; law++) {
             thought.become(now);
             thought.law = law;
             thought.passNights(n);
-            int read = thought.together(READ);
-            if (law == 0 || read > most) {
-                best = law;
-                most = read;
-            }
+            choice.offer(law, thought.together(READ));
         }
-        return what == 0 ? best : most;
+        return what == 0 ? choice.best : choice.most;
     }
 
     public int bedtime(int lodger, int n, int what) {
         if (!lodges(lodger) || !within(n, 1, 40) || !within(what, 0, 1)) {
             return BAD;
         }
-        int best = 0;
-        int most = 0;
+        choice.begin();
         for (int wish = 0; wish <= LAST_WISH; wish += WISH_STEP) {
             thinkOf(lodger, WISH, wish);
             thought.passNights(n);
-            int sum = thought.facts[READ][lodger] + thought.facts[PURSE][lodger];
-            if (wish == 0 || sum > most) {
-                best = wish;
-                most = sum;
-            }
+            choice.offer(wish, thought.facts[READ][lodger] + thought.facts[PURSE][lodger]);
         }
-        return what == 0 ? best : most;
+        return what == 0 ? choice.best : choice.most;
     }
 
     public int wrong(int lodger, int n, int what) {
         if (!lodges(lodger) || !within(n, 1, 40) || !within(what, 0, 1)) {
             return BAD;
         }
-        int best = 0;
-        int most = 0;
-        // 0, -10, 10, -20, 20, ..: the first of several with the same purse is the one that counts.
-        for (int i = 0; i <= 12; i++) {
-            int clock = (i % 2 == 1 ? -10 : 10) * ((i + 1) / 2);
-            thinkOf(lodger, CLOCK, clock);
-            thought.passNights(n);
-            int purse = thought.facts[PURSE][lodger];
-            if (i == 0 || purse > most) {
-                best = clock;
-                most = purse;
-            }
+        choice.begin();
+        // The one nearest to 0 is offered first, the one below ahead of the one above.
+        for (int off = 0; off <= MOST[CLOCK]; off += 10) {
+            offerPurse(lodger, CLOCK, -off, n);
+            offerPurse(lodger, CLOCK, off, n);
         }
-        return what == 0 ? best : most;
+        return what == 0 ? choice.best : choice.most;
     }
 
     public int moved(int lodger, int n, int what) {
         if (!lodges(lodger) || !within(n, 1, 60) || !within(what, 0, 1)) {
             return BAD;
         }
-        int best = 0;
-        int most = 0;
+        choice.begin();
         for (int stair = 0; stair < STAIRS; stair++) {
-            thinkOf(lodger, STAIR, stair);
-            thought.passNights(n);
-            int purse = thought.facts[PURSE][lodger];
-            if (stair == 0 || purse > most) {
-                best = stair;
-                most = purse;
-            }
+            offerPurse(lodger, STAIR, stair, n);
         }
-        return what == 0 ? best : most;
+        return what == 0 ? choice.best : choice.most;
     }
 
     public int dark() {
@@ -264,17 +241,12 @@ public final class LastLight {
         if (sheets[sheet].sort == MISSING) {
             return NOTHING;
         }
-        int best = 0;
-        int least = 0;
+        choice.begin();
         for (int wish = 0; wish <= LAST_WISH; wish += WISH_STEP) {
             thinkOf(lodger, WISH, wish);
-            int differences = differences(sheets[sheet], lodger);
-            if (wish == 0 || differences < least) {
-                best = wish;
-                least = differences;
-            }
+            choice.offer(wish, -differences(sheets[sheet], lodger));
         }
-        return what == 0 ? best : least;
+        return what == 0 ? choice.best : -choice.most;
     }
 
     public int fee() {
@@ -362,13 +334,10 @@ public final class LastLight {
     }
 
     public int mark(int sheet, int place, int v) {
-        if (!isSheet(sheet)) {
-            return BAD;
+        if (refusalOfSheet(sheet) != 0) {
+            return refusalOfSheet(sheet);
         }
         Sheet marked = sheets[sheet];
-        if (marked.sort == MISSING) {
-            return NOTHING;
-        }
         if (!marked.hasPlace(place)) {
             return INDEX;
         }
@@ -387,13 +356,10 @@ public final class LastLight {
     }
 
     public int pour(int sheet) {
-        if (!isSheet(sheet)) {
-            return BAD;
+        if (refusalOfSheet(sheet) != 0) {
+            return refusalOfSheet(sheet);
         }
         Sheet poured = sheets[sheet];
-        if (poured.sort == MISSING) {
-            return NOTHING;
-        }
         int otherwise = 0;
         for (int i = 0; i < now.lodgers; i++) {
             if (poured.hasNumber(i)) {
@@ -407,13 +373,10 @@ public final class LastLight {
     }
 
     public int reads(int sheet) {
-        if (!isSheet(sheet)) {
-            return BAD;
+        if (refusalOfSheet(sheet) != 0) {
+            return refusalOfSheet(sheet);
         }
         Sheet read = sheets[sheet];
-        if (read.sort == MISSING) {
-            return NOTHING;
-        }
         for (int i = 0; i < read.places; i++) {
             if (read.hasNumber(i) && !(lodges(i) && now.facts[OUT][i] == read.row[i])) {
                 return i;
@@ -466,48 +429,32 @@ public final class LastLight {
     }
 
     public int ask(int slot, int kind) {
-        if (!isSlot(slot) || !fits(OF_KIND, kind)) {
+        if (!fits(OF_KIND, kind)) {
             return BAD;
         }
+        if (refusalOfSlot(slot, HOLDS_LODGER) != 0) {
+            return refusalOfSlot(slot, HOLDS_LODGER);
+        }
         Slot asked = slots[slot];
-        if (asked.thing == HOLDS_NOTHING) {
-            return NOTHING;
-        }
-        if (asked.thing != HOLDS_LODGER || !Kinds.isOf(asked.kind, kind)) {
-            return KIND;
-        }
-        return Kinds.worth(asked.kind, asked.wish);
+        return Kinds.isOf(asked.kind, kind) ? Kinds.worth(asked.kind, asked.wish) : KIND;
     }
 
     public int item(int slot, int place) {
-        if (!isSlot(slot)) {
-            return BAD;
+        if (refusalOfSlot(slot, HOLDS_SHEET) != 0) {
+            return refusalOfSlot(slot, HOLDS_SHEET);
         }
-        Slot held = slots[slot];
-        if (held.thing == HOLDS_NOTHING) {
-            return NOTHING;
-        }
-        if (held.thing != HOLDS_SHEET) {
-            return KIND;
-        }
-        if (!held.sheet.hasPlace(place)) {
+        Sheet laid = slots[slot].sheet;
+        if (!laid.hasPlace(place)) {
             return INDEX;
         }
-        return held.sheet.hasNumber(place) ? held.sheet.row[place] : KIND;
+        return laid.hasNumber(place) ? laid.row[place] : KIND;
     }
 
     public int rest(int slot, int n) {
-        if (!isSlot(slot)) {
-            return BAD;
+        if (refusalOfSlot(slot, HOLDS_NUMBER) != 0) {
+            return refusalOfSlot(slot, HOLDS_NUMBER);
         }
-        Slot held = slots[slot];
-        if (held.thing == HOLDS_NOTHING) {
-            return NOTHING;
-        }
-        if (held.thing != HOLDS_NUMBER) {
-            return KIND;
-        }
-        return n == 0 ? NO : held.number % n;
+        return n == 0 ? NO : slots[slot].number % n;
     }
 
     // ---- rows, images
@@ -598,10 +545,36 @@ public final class LastLight {
         return within(slot, 0, SLOTS - 1);
     }
 
+    /** BAD or NOTHING; 0, if the sheet is there. */
+    private int refusalOfSheet(int sheet) {
+        if (!isSheet(sheet)) {
+            return BAD;
+        }
+        return sheets[sheet].sort == MISSING ? NOTHING : 0;
+    }
+
+    /** BAD, NOTHING or KIND; 0, if the slot holds such a thing. */
+    private int refusalOfSlot(int slot, int thing) {
+        if (!isSlot(slot)) {
+            return BAD;
+        }
+        if (slots[slot].thing == HOLDS_NOTHING) {
+            return NOTHING;
+        }
+        return slots[slot].thing == thing ? 0 : KIND;
+    }
+
     /** The thought house is as now, but one thing of one lodger is otherwise. */
     private void thinkOf(int lodger, int what, int v) {
         thought.become(now);
         thought.change(lodger, what, v);
+    }
+
+    /** A choice of something of a lodger, by its purse behind so many nights. */
+    private void offerPurse(int lodger, int what, int v, int n) {
+        thinkOf(lodger, what, v);
+        thought.passNights(n);
+        choice.offer(v, thought.facts[PURSE][lodger]);
     }
 
     /** By how much a sheet and what a lodger puts out at, in the nights to be thought, differ. */
@@ -620,6 +593,25 @@ public final class LastLight {
         for (int shift = 24; shift >= 0 && tapeBytes < TAPE; shift -= 8) {
             tape[tapeBytes] = (four >>> shift) & 255;
             tapeBytes++;
+        }
+    }
+
+    /** Of those that are offered the one that is worth most; of several the first. */
+    private static final class Choice {
+        boolean empty = true;
+        int best = 0;
+        int most = 0;
+
+        void begin() {
+            empty = true;
+        }
+
+        void offer(int one, int worth) {
+            if (empty || worth > most) {
+                empty = false;
+                best = one;
+                most = worth;
+            }
         }
     }
 
@@ -655,7 +647,8 @@ public final class LastLight {
         private static int learns(int kind, boolean paid) {
             switch (kind) {
                 case STUDENT: return paid ? 5 : learns(0, false);
-                case SICK: return paid ? learns(STUDENT, true) : -1; // not 1 below STUDENT: the shared runs tell
+                // Spared, it is -1 and not 1 below STUDENT: the runs under shared/tests tell.
+                case SICK: return paid ? learns(STUDENT, true) : -1;
                 case INFORMER: return paid ? 0 : learns(BAKER, false);
                 default: return paid ? 20 : -4;
             }

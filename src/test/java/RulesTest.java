@@ -1,0 +1,81 @@
+import java.lang.reflect.Constructor;
+import java.lang.reflect.Field;
+import java.lang.reflect.Method;
+import java.lang.reflect.Modifier;
+import java.nio.file.Files;
+import java.nio.file.Path;
+import java.util.ArrayList;
+import java.util.List;
+import java.util.Set;
+import java.util.TreeSet;
+import java.util.regex.Matcher;
+import java.util.regex.Pattern;
+
+/** The face of the class, and what of LANGUAGE.md can be seen from its text. */
+public final class RulesTest {
+    private static final String FACE = "lodger3 told2 burns2 as2 turns2 set3 rule2 deal1 seed1 nights1 house1 longest0 behind2 bestLaw2 bedtime3 wrong3 moved3 dark0 wished3 fee0 fine1 feed3 trim1 text0 textTold2 why1 sheet3 mark3 pour1 reads1 copy5 lay3 ask2 item2 rest2 tell1 check1 keep0 back0 count1";
+    private static final String CONSTANTS = "BAD NO FULL NONE NOTHING KIND INDEX SIZE";
+    private static final String[] RULED_OUT = {"\\bthrow\\b", "\\btry\\b", "\\bcatch\\b", "\\bsynchronized\\b", "\\bassert\\b", "->", "::", "\\bimport\\b", "\\bpackage\\b", "Exact\\b", "\\bSystem\\.(?!arraycopy)", "\\bdouble\\b", "\\bfloat\\b"};
+
+    public static void main(String[] args) throws Exception {
+        face();
+        text();
+        Due.end();
+    }
+
+    private static void face() {
+        Set<String> methods = new TreeSet<>();
+        Set<String> privates = new TreeSet<>();
+        for (Method m : LastLight.class.getDeclaredMethods()) {
+            if (Modifier.isPrivate(m.getModifiers())) {
+                privates.add(m.getName());
+            } else {
+                methods.add(m.getName() + m.getParameterCount());
+            }
+        }
+        same("methods", methods, FACE);
+        Set<String> constants = new TreeSet<>();
+        for (Field f : LastLight.class.getDeclaredFields()) {
+            if (!Modifier.isPrivate(f.getModifiers())) {
+                constants.add(f.getName());
+            }
+            Due.due("static and not final: " + f.getName(), Modifier.isStatic(f.getModifiers()) && !Modifier.isFinal(f.getModifiers()) ? 1 : 0, 0);
+        }
+        same("constants", constants, CONSTANTS);
+        Constructor<?>[] made = LastLight.class.getDeclaredConstructors();
+        Due.due("constructors", made.length, 1);
+        for (String name : privates) {
+            Due.due("private method named as a public one: " + name, (" " + FACE.replaceAll("[0-9]", "") + " ").contains(" " + name + " ") ? 1 : 0, 0);
+        }
+        for (Class<?> inside : LastLight.class.getDeclaredClasses()) {
+            Due.due("static: " + inside.getName(), Modifier.isStatic(inside.getModifiers()) ? 1 : 0, 1);
+        }
+        Due.due("final", Modifier.isFinal(LastLight.class.getModifiers()) ? 1 : 0, 1);
+    }
+
+    private static void same(String name, Set<String> got, String want) {
+        Set<String> due = new TreeSet<>(List.of(want.split(" ")));
+        if (!got.equals(due)) {
+            System.out.println(name + ": " + got + ", due are " + due);
+        }
+        Due.due(name, got.equals(due) ? 1 : 0, 1);
+    }
+
+    private static void text() throws Exception {
+        String text = Files.readString(Path.of("src/main/java/LastLight.java"));
+        String code = text.replaceAll("(?s)/\\*.*?\\*/", "").replaceAll("//[^\n]*", "");
+        for (String word : RULED_OUT) {
+            Matcher found = Pattern.compile(word).matcher(code);
+            Due.due("ruled out: " + word, found.find() ? 1 : 0, 0);
+        }
+        List<String> made = new ArrayList<>();
+        for (String line : code.split("\n")) {
+            // All that is made is made with the object: no call makes anything.
+            if (line.contains("new ") && !line.contains(" = new ")) {
+                made.add(line.trim());
+            }
+        }
+        Due.due("made elsewhere " + made, made.size(), 0);
+        Due.due("signs above 127", code.chars().filter(c -> c > 127).count(), 0);
+    }
+}
