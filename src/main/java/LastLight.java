@@ -867,7 +867,7 @@ public final class LastLight {
                     stack[top] = step == NAME ? a : step == NAME + 1 ? b : c;
                     top++;
                 } else if (step == SIGN + '!' && top > 0) {
-                    stack[top - 1] = bit(stack[top - 1] == 0);
+                    stack[top - 1] = stack[top - 1] == 0 ? 1 : 0;
                 } else if (top > 1) {
                     top--;
                     stack[top - 1] = joined(step - SIGN, stack[top - 1], stack[top]);
@@ -878,20 +878,16 @@ public final class LastLight {
 
         static int joined(int sign, int left, int right) {
             switch (sign) {
-                case '|': return bit(left != 0 || right != 0);
-                case '&': return bit(left != 0 && right != 0);
-                case '<': return bit(left < right);
-                case '=': return bit(left == right);
-                case '>': return bit(left > right);
+                case '|': return left != 0 || right != 0 ? 1 : 0;
+                case '&': return left != 0 && right != 0 ? 1 : 0;
+                case '<': return left < right ? 1 : 0;
+                case '=': return left == right ? 1 : 0;
+                case '>': return left > right ? 1 : 0;
                 case '+': return left + right;
                 case '-': return left - right;
                 case '*': return left * right;
                 default: return right == 0 ? 0 : left / right;
             }
-        }
-
-        static int bit(boolean holds) {
-            return holds ? 1 : 0;
         }
     }
 
