@@ -192,6 +192,10 @@ public final class EdgesOfImagesTest {
         none.keep();
         tell(none, 0, 0, 0, 0);
         due("promise 38: nobody in the image", none.check(2), 0);
+        LastLight ten = Edges.with("burn w", 1, 2, 3, 4, 5, 6, 7, 8, 9, 55);
+        ten.keep();
+        tell(ten, 100, -10, 100, -20);
+        due("promise 38: ten in the image", ten.check(2), 0);
         LastLight y = Edges.with("burn w", 100, 300);
         y.keep();
         tell(y, 400, -40, 400, -80);

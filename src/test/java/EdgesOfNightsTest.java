@@ -16,6 +16,7 @@ public final class EdgesOfNightsTest {
         p11FearHeld();
         p11WhoPaidNothing();
         p12Bounds();
+        p12FullHouse();
         p12Sets();
         p13Longest();
         Due.end();
@@ -293,6 +294,16 @@ public final class EdgesOfNightsTest {
         for (int what = 0; what < 4; what++) {
             due("promise 12: all together, " + what, x.house(what), all[what]);
         }
+    }
+
+    private static void p12FullHouse() {
+        LastLight x = with(100, 200, 300, 400, 500, 500, 400, 300, 200, 100);
+        due("promise 11: paid by ten", x.nights(1), 300);
+        int[] all = {3000, -300, 3000, 400};
+        for (int what = 0; what < 4; what++) {
+            due("promise 12: all of ten together, " + what, x.house(what), all[what]);
+        }
+        due("promise 13: of ten", x.longest(), 4);
     }
 
     private static void p12Sets() {

@@ -22,6 +22,7 @@ public final class EdgesOfTextsTest {
         p25Signs();
         p25EndTooSoon();
         p25FirstFault();
+        p25BehindAFault();
         p25Values();
         p25Wraps();
         p25DividedByNothing();
@@ -174,7 +175,7 @@ public final class EdgesOfTextsTest {
         good("KEY burn", "burn 1");
         good("KEY fee", "fee 1");
         good("KEY fine", "fine 1");
-        for (String word : new String[] {"bur", "burns", "bern", "urn", "fe", "fees", "fea", "fin", "fines", "fire", "f", "n", "w", "x", "a", "z"}) {
+        for (String word : new String[] {"bur", "burns", "bern", "turn", "gee", "mine", "fina", "urn", "fe", "fees", "fea", "fin", "fines", "fire", "f", "n", "w", "x", "a", "z"}) {
             fault("no KEY", word + " 1", 0);
         }
         fault("a KEY in capitals", "FEE 1", 0);
@@ -266,6 +267,10 @@ public final class EdgesOfTextsTest {
         gives("nine (, one of them ended", "((1)+" + "(".repeat(7) + "n" + ")".repeat(7) + ")", 21);
         fault("one of them ended, the ninth all the same", "fee ((1)+" + "(".repeat(8) + "n" + ")".repeat(9), 4 + 5 + 7);
         fault("( stands apart from !", "fee " + "!(".repeat(8) + "(n" + ")".repeat(9), 20);
+        for (char sign : "|&<=>+-*/".toCharArray()) {
+            good("all of E in brackets", "fee (1" + sign + "2)");
+        }
+        gives("the loosest in brackets", "(1|0)*5", 5);
         fault("a ) too many", "fee (n))", 7);
         fault("a ) with no (", "fee n)", 5);
         fault("a ) too soon", "fee ()", 5);
@@ -341,10 +346,27 @@ public final class EdgesOfTextsTest {
         fault("in brackets ahead of a missing )", "fee (1+?", 7);
     }
 
+    /** Nothing is left of a text with a fault, wherever its reading ended. */
+    private static void p25BehindAFault() {
+        String[] faults = {"fee w", "fee 12345", "fee 1n", "fee (((1", "fee !!!", "fee 1 1", "foo", "1", "fee ?", "fee 1+1+", "", "burn 1<2<3", "fee"};
+        for (String text : faults) {
+            LastLight x = new LastLight();
+            Due.textOf(x, text);
+            due("promise 25: a text behind '" + text + "'", Due.textOf(x, "fee 7"), 0);
+            due("promise 25: a text behind '" + text + "', NUMBERS and NAMES", x.textTold(0, 1), 1);
+            due("promise 25: a text behind '" + text + "' gives", x.fee(), 7);
+        }
+    }
+
     private static void p25Values() {
         gives("what is not 0 is true, below 0 too", "(0-5)&1", 1);
         gives("& gives 1", "5&7", 1);
+        gives("& gives 0", "0&7", 0);
+        gives("& gives 0, the other side", "7&0", 0);
+        gives("& gives 0, both", "0&0", 0);
         gives("| gives 1", "0|7", 1);
+        gives("| gives 1, the other side", "7|0", 1);
+        gives("| gives 0", "0|0", 0);
         gives("! of what is below 0", "!(0-1)", 0);
         gives("a test gives 0", "n<20", 0);
         gives("a test gives 1 at its edge", "n<21", 1);

@@ -8,10 +8,13 @@ public final class EdgesOfThoughtTest {
     public static void main(String[] args) {
         nothingChanges();
         beyondTheLastNight();
+        nothingIsLeftOfAnotherThought();
+        fullHouse();
         p14Bounds();
         p14NoNights();
         p15Bounds();
         p15OfSeveralTheLeast();
+        p15LastLaw();
         p16Bounds();
         p16FirstAndLastWish();
         p17Bounds();
@@ -76,6 +79,58 @@ public final class EdgesOfThoughtTest {
         due("promise 19: no night is more", x.count(1), 9999);
     }
 
+    /** What was best in another call, and was more than all that is thought now, counts for nothing. */
+    private static void nothingIsLeftOfAnotherThought() {
+        int[] alone = new int[10];
+        for (int i = 0; i < alone.length; i++) {
+            alone[i] = thought(Edges.laden(), i);
+        }
+        for (int first = 0; first < alone.length; first++) {
+            LastLight x = Edges.laden();
+            thought(x, first);
+            for (int i = 0; i < alone.length; i++) {
+                due("promise " + (15 + i / 2 + (i > 7 ? 1 : 0)) + ": behind another thought, " + first + " ahead of " + i, thought(x, i), alone[i]);
+                thought(x, first);
+            }
+        }
+    }
+
+    /** Of bestLaw, bedtime, wrong, moved, wished: what 0 and 1. */
+    private static int thought(LastLight x, int which) {
+        switch (which / 2) {
+            case 0: return x.bestLaw(1, which % 2);
+            case 1: return x.bedtime(1, 40, which % 2);
+            case 2: return x.wrong(0, 40, which % 2);
+            case 3: return x.moved(0, 60, which % 2);
+            default: return x.wished(0, 2, which % 2);
+        }
+    }
+
+    private static void fullHouse() {
+        LastLight x = with("burn w", 100, 200, 300, 400, 500, 500, 400, 300, 200, 100);
+        due("promise 14: READ of ten", x.behind(2, 0), 6000);
+        due("promise 14: PURSES of ten", x.behind(2, 1), -600);
+        due("promise 14: CHINK of ten", x.behind(2, 2), 800);
+        due("promise 14: PURSE of the first that is last", x.behind(2, 3 + 5), -600);
+        due("promise 15: READ of ten", x.bestLaw(60, 1), 180000);
+        due("promise 16: the tenth, just not the last", x.bedtime(9, 1, 0), 480);
+        due("promise 17: the tenth", x.wrong(9, 1, 0), 0);
+        due("promise 18: the tenth", x.moved(9, 1, 0), 0);
+        due("promise 19: ten", x.dark(), NONE);
+        for (int i = 0; i < 10; i++) {
+            x.set(i, WISH, 599);
+        }
+        Due.textOf(x, "burn 299");
+        due("promise 19: ten, less than half", x.dark(), 1);
+        Due.textOf(x, "burn 300");
+        due("promise 19: ten, not less", x.dark(), NONE);
+        x.sheet(0, 0, 1);
+        Due.textOf(x, "burn w");
+        x.mark(0, 0, 100);
+        due("promise 20: the tenth", x.wished(0, 9, 0), 100);
+        due("promise 22: the tenth", x.fine(9), 0);
+    }
+
     private static void p14Bounds() {
         Edges.within("promise 14: behind n", Edges::laden, (x, v) -> x.behind(v, 0), 0, 100, BAD);
         Edges.within("promise 14: behind what, five lodgers", Edges::laden, (x, v) -> x.behind(1, v), 0, 7, BAD);
@@ -138,6 +193,27 @@ public final class EdgesOfThoughtTest {
         y.turns(1, 0);
         y.turns(0, 4);
         due("promise 15: not the least, if it is less", y.bestLaw(2, 0), 2);
+    }
+
+    /** An informer fears nothing: who lets it pay lets most be read, and by some lot only it pays. */
+    private static void p15LastLaw() {
+        int seed = 1;
+        while (payerByLot(seed) != 0) {
+            seed++;
+        }
+        LastLight x = with("burn w-f", 100, 500, 500);
+        x.turns(0, 4);
+        x.seed(seed);
+        due("promise 15: the last law", x.bestLaw(2, 0), 3);
+        due("promise 15: the last law, READ", x.bestLaw(2, 1), 2 * (80 + 500 + 500));
+    }
+
+    private static int payerByLot(int seed) {
+        int z = seed;
+        for (int i = 0; i < 4; i++) {
+            z = z * 1103515245 + 12345;
+        }
+        return (z >>> 8) % 3;
     }
 
     private static void p16Bounds() {
@@ -416,6 +492,9 @@ public final class EdgesOfThoughtTest {
         due("promise 21: it wraps back", x.fee(), Integer.MAX_VALUE);
         Due.textOf(x, "fee p-n");
         due("promise 21: of the first night", x.fee(), 0);
+        LastLight first = new LastLight();
+        Due.textOf(first, "fee 77");
+        due("promise 21: by the text that is number 0", first.fee(), 77);
         LastLight last = Edges.atNight(9999);
         Due.textOf(last, "fee n");
         due("promise 21: of the last night", last.fee(), 9999);
@@ -435,5 +514,9 @@ public final class EdgesOfThoughtTest {
         due("promise 22: it wraps", x.fine(0), 499 * 9999 * 9999);
         due("promise 22: of the last", x.fine(1), 0);
         due("promise 22: of nobody, by a text", x.fine(2), BAD);
+        LastLight first = new LastLight();
+        first.lodger(0, 0, 100);
+        Due.textOf(first, "fine 77");
+        due("promise 22: by the text that is number 0", first.fine(0), 77);
     }
 }
