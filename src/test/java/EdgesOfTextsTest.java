@@ -156,6 +156,13 @@ public final class EdgesOfTextsTest {
         z.back();
         due("promise 25: room again by an image", Due.textOf(z, "fee 97"), 13);
         due("promise 25: its value", z.fee(), 97);
+        LastLight shorter = new LastLight();
+        shorter.keep();
+        Due.textOf(shorter, "fee !1");
+        shorter.back();
+        due("promise 25: a shorter one by the number of one that is gone", Due.textOf(shorter, "fee 5"), 0);
+        due("promise 25: nothing is left of that one", shorter.fee(), 5);
+        due("promise 25: nor of what it had", shorter.textTold(0, 1), 1);
     }
 
     private static void p25WholeTape() {
