@@ -19,7 +19,9 @@ public final class RulesTest {
 
     public static void main(String[] args) throws Exception {
         face();
+        size();
         text();
+        lengths();
         Due.end();
     }
 
@@ -51,6 +53,41 @@ public final class RulesTest {
             Due.due("static: " + inside.getName(), Modifier.isStatic(inside.getModifiers()) ? 1 : 0, 1);
         }
         Due.due("final", Modifier.isFinal(LastLight.class.getModifiers()) ? 1 : 0, 1);
+    }
+
+    /** Rule 11, as far as the classes themselves tell it; and rule 1 for the methods of the classes inside. */
+    private static void size() {
+        Class<?>[] inside = LastLight.class.getDeclaredClasses();
+        Due.due("more than 12 classes", inside.length + 1 > 12 ? 1 : 0, 0);
+        List<Class<?>> all = new ArrayList<>(List.of(inside));
+        all.add(LastLight.class);
+        for (Class<?> one : all) {
+            int fields = 0;
+            for (Field f : one.getDeclaredFields()) {
+                fields += Modifier.isStatic(f.getModifiers()) ? 0 : 1;
+            }
+            Due.due("more than 20 fields: " + one.getName(), fields > 20 ? 1 : 0, 0);
+            for (Method m : one.getDeclaredMethods()) {
+                Due.due("more than 7 parameters: " + m, m.getParameterCount() > 7 ? 1 : 0, 0);
+                boolean named = one != LastLight.class && (" " + FACE.replaceAll("[0-9]", "") + " ").contains(" " + m.getName() + " ");
+                Due.due("inside, named as a public one: " + m, named ? 1 : 0, 0);
+            }
+        }
+    }
+
+    /** Methods stay short: from a line that opens one to the line that closes it, as deep in. */
+    private static void lengths() throws Exception {
+        List<String> lines = Files.readAllLines(Path.of("src/main/java/LastLight.java"));
+        int methods = 0;
+        for (int i = 0; i < lines.size(); i++) {
+            Matcher opens = Pattern.compile("( {4}| {8})(?! )(?!.*\\b(class|if|for|while|switch|else)\\b).*\\) \\{").matcher(lines.get(i));
+            if (opens.matches()) {
+                methods++;
+                int length = lines.subList(i, lines.size()).indexOf(opens.group(1) + "}");
+                Due.due("longer than 60 lines: " + lines.get(i).trim(), length < 0 || length > 60 ? 1 : 0, 0);
+            }
+        }
+        Due.due("methods that were looked at", methods > 90 ? 1 : 0, 1);
     }
 
     private static void same(String name, Set<String> got, String want) {
